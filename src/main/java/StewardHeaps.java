@@ -807,7 +807,7 @@ public final class StewardHeaps {
             } else if (law == MISER) {
                 lay(takeOfEachHeight());
             } else {
-                giveGreatest();
+                give(lift(0));
             }
         }
 
@@ -837,14 +837,15 @@ public final class StewardHeaps {
             return taken;
         }
 
-        private void giveGreatest() {
-            int left = lift(0);
-            for (int i = 0; i < count && left > 0; i++) {
+        /** Lays one on each heap, as far as the stones go, and the rest one by one: those are the least. */
+        private void give(int stones) {
+            int given = Math.min(stones, count);
+            for (int i = 0; i < given; i++) {
                 heights[i]++;
-                left--;
             }
-            for (; left > 0; left--) {
-                lay(1);
+            for (int left = stones - given; left > 0 && count < heights.length; left--) {
+                heights[count] = 1;
+                count++;
             }
         }
     }
@@ -1004,7 +1005,7 @@ public final class StewardHeaps {
         }
 
         boolean isWord(String word) {
-            if (kind != WORD || length() != word.length()) {
+            if (kind != WORD || after - place != word.length()) {
                 return false;
             }
             for (int i = 0; i < word.length(); i++) {
@@ -1017,7 +1018,7 @@ public final class StewardHeaps {
 
         /** Whether the token is the same word as one told at a place ahead of it. */
         boolean isWordAt(int from, int length) {
-            if (kind != WORD || length() != length) {
+            if (kind != WORD || after - place != length) {
                 return false;
             }
             for (int i = 0; i < length; i++) {

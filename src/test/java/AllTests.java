@@ -16,6 +16,7 @@ final class AllTests {
         ChanceTest.run();
         ActsTest.run();
         RandomRunsTest.run();
+        MachineTest.run();
         if (args.length > 0) {
             LanguageTest.run(Files.readString(Path.of(args[0])));
         }

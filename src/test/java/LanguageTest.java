@@ -26,6 +26,7 @@ final class LanguageTest {
         words(code);
         imports(code);
         classes(code);
+        madeOnce(code);
     }
 
     private static void face() {
@@ -115,6 +116,17 @@ final class LanguageTest {
         for (String line : code.split("\n")) {
             length = line.matches(" {4}( {4})?[^ }].*\\{") ? 0 : length + 1;
             Checks.due("a method of " + length + " lines: " + line, length > 60 && line.matches(" {4}( {4})?\\}"), false);
+        }
+    }
+
+    /** All that is made is made with the object, but for what led throws. */
+    private static void madeOnce(String code) {
+        for (String line : code.split("\n")) {
+            boolean makes = line.matches(".*\\bnew\\b.*");
+            boolean field = line.matches(" +(private )?(final )?[\\w\\[\\]]+ \\w+ = new .*") && !line.startsWith("            ");
+            boolean inConstructor = line.matches(" +(rows|kept|pictures)\\[\\w\\] = new (Heaps|Cellars)\\(\\);");
+            boolean thrown = line.contains("throw new NoSuchElementException();");
+            Checks.due("makes an object: " + line, !makes || field || inConstructor || thrown, true);
         }
     }
 }
