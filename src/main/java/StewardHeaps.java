@@ -44,8 +44,8 @@ public final class StewardHeaps {
     private static final int MANY = 5;
     private static final int LACKS = 6;
 
-    private final Tape tape = new Tape();
-    private final Reader reader = new Reader(tape);
+    private final Reader reader = new Reader();
+    private final Tape tape = reader.tape;
     private final Cellars now = new Cellars();
     private final Past past = new Past();
     private final Guesses guesses = new Guesses();
@@ -1018,7 +1018,7 @@ public final class StewardHeaps {
 
         /** Whether the token is the same word as one told at a place ahead of it. */
         boolean isWordAt(int from, int length) {
-            if (kind != WORD || after - place != length) {
+            if (kind != WORD || after - place != length || from < 0 || from + length > bytes.length) {
                 return false;
             }
             for (int i = 0; i < length; i++) {
@@ -1032,17 +1032,13 @@ public final class StewardHeaps {
 
     /** Reads a text; each reading ends at the token of the first fault. */
     private static final class Reader {
+        final Tape tape = new Tape();
         private final int[] namePlaces = new int[CELLARS];
         private final int[] nameLengths = new int[CELLARS];
-        private final Tape tape;
         private Told told = new Told();
         private int number;
         private int named;
         private int fault;
-
-        Reader(Tape from) {
-            tape = from;
-        }
 
         /** The fault of the first n bytes, at the tape's place, or 0: then what they tell can be handed over. */
         int read(int n) {

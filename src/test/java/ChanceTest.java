@@ -85,6 +85,7 @@ final class ChanceTest {
         x = Texts.of("store hold 3 sleeps 37;cellar a giver 5");
         Checks.answered(x, "36 is below 37", x.drawn(0, 65536, 1), 1);
         for (int seed = 0; seed <= 65536; seed += 997) {
+            x = Texts.of("store hold 3 sleeps 37;cellar a giver 5");
             for (int n = 0; n <= 200; n += 7) {
                 int due = Naive.drawn(Naive.of(0, 5), Naive.GIVER, 3, 37, seed, n);
                 Checks.due("drawn(0, " + seed + ", " + n + ")", x.drawn(0, seed, n), due);

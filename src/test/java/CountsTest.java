@@ -33,6 +33,7 @@ final class CountsTest {
         Checks.answered(x, "waysUnlike(0)", x.waysUnlike(0), 1);
         Checks.answered(x, "waysUnlike(60)", x.waysUnlike(60), 10880);
         for (int n = 0; n <= 24; n++) {
+            x = Texts.of(Texts.FOUR);
             List<List<Integer>> all = Naive.partitions(n);
             Checks.promise(27);
             Checks.due("ways(" + n + ")", x.ways(n), all.size());

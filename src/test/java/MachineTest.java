@@ -9,8 +9,9 @@ import java.util.Random;
 
 /** Calls with whatever arguments in whatever state: none throws but led, and led only what the document names. */
 final class MachineTest {
-    private static final int OBJECTS = 300;
-    private static final int CALLS = 512;
+    private static final int OBJECTS = 500;
+    // With the texts that are fed between them, some 512 calls at most.
+    private static final int CALLS = 300;
     private static final int[] EDGES = {0, 1, 2, 3, 4, 5, 7, 8, 9, 10, 30, 31, 59, 60, 61, 100, 200, 201, 400, 998, 999, 1000,
             65536, 65537, -1, -2, -1000, Integer.MAX_VALUE, Integer.MIN_VALUE};
     private static final String[] TEXTS = {Texts.FOUR, "",

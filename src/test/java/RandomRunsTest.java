@@ -8,8 +8,9 @@ import java.util.Random;
 
 /** Runs of calls drawn by fixed seeds, each answer against the naive one. */
 final class RandomRunsTest {
-    private static final int RUNS = 150;
-    private static final int CALLS = 250;
+    private static final int RUNS = 700;
+    // Of the 512 calls of an object, with room for what one step asks.
+    private static final int CALLS = 360;
     private static final int TEXTS = 20000;
     private static final String[] LAWS = {"steward", "banker", "miser", "giver"};
     private static final String[] NAMES = {"a", "b", "c", "d", "hold", "night", "abcdefgh", "steward"};
@@ -36,7 +37,7 @@ final class RandomRunsTest {
     static void run() {
         texts();
         for (int seed = 1; seed <= RUNS; seed++) {
-            new RandomRunsTest(seed).calls();
+            new RandomRunsTest(seed).steps();
         }
     }
 
@@ -47,7 +48,7 @@ final class RandomRunsTest {
         Random random = new Random(4711);
         StewardHeaps x = new StewardHeaps();
         for (int i = 0; i < TEXTS; i++) {
-            if (i % 50 == 0) {
+            if (i % 10 == 0) {
                 x = new StewardHeaps();
             }
             String text = broken(random, text(random));
@@ -120,12 +121,17 @@ final class RandomRunsTest {
 
     // ---- calls
 
-    private void calls() {
-        for (calls = 0; calls < CALLS; calls++) {
-            if (calls == 0 || random.nextInt(60) == 0) {
+    private StewardHeaps x() {
+        calls++;
+        return x;
+    }
+
+    private void steps() {
+        for (int step = 0; calls < CALLS; step++) {
+            if (step == 0 || random.nextInt(60) == 0) {
                 tell();
             }
-            call(random.nextInt(58));
+            ask(random.nextInt(58));
             if (random.nextInt(10) == 0) {
                 stateNow();
             }
@@ -136,7 +142,8 @@ final class RandomRunsTest {
         String text = text(random);
         NaiveStore next = new NaiveStore(text);
         Checks.promise(3);
-        due(text, Texts.tell(x, text), next.fault == null ? next.start.size() : -1);
+        calls += text.length() / 20 + 1;
+        due(text, Texts.tell(x(), text), next.fault == null ? next.start.size() : -1);
         if (next.fault == null) {
             store = next;
             now = new Moment(List.copyOf(store.start), 0);
@@ -153,31 +160,31 @@ final class RandomRunsTest {
         for (int c = 0; c < now.cellars().size(); c++) {
             Naive.State state = now.cellars().get(c);
             Checks.promise(6);
-            due("law", x.cellar(c, 0), store.laws.get(c));
-            due("how many heaps", x.cellar(c, 1), state.heaps().size());
-            due("stones", x.cellar(c, 2), state.stones());
-            due("greatest", x.cellar(c, 3), state.heaps().isEmpty() ? 0 : state.heaps().get(0));
-            due("held", x.cellar(c, 4), state.held());
+            due("law", x().cellar(c, 0), store.laws.get(c));
+            due("how many heaps", x().cellar(c, 1), state.heaps().size());
+            due("stones", x().cellar(c, 2), state.stones());
+            due("greatest", x().cellar(c, 3), state.heaps().isEmpty() ? 0 : state.heaps().get(0));
+            due("held", x().cellar(c, 4), state.held());
             Checks.promise(7);
             for (int i = 0; i < state.heaps().size(); i++) {
-                due("heap", x.heap(c, i), state.heaps().get(i));
+                due("heap", x().heap(c, i), state.heaps().get(i));
             }
         }
         Checks.promise(58);
         if (store != null) {
-            due("hold", x.size(0), store.hold);
-            due("sleeps", x.size(1), store.sleeps);
-            due("cellars", x.size(2), store.start.size());
-            due("unsure", x.size(3), store.unsure.size());
-            due("seen", x.size(4), store.seen.size());
-            due("nights", x.size(5), now.nights());
-            due("stones", x.size(6), now.cellars().stream().mapToInt(Naive.State::stones).sum());
-            due("acts", x.size(7), past.size());
-            due("images", x.size(8), images.size());
+            due("hold", x().size(0), store.hold);
+            due("sleeps", x().size(1), store.sleeps);
+            due("cellars", x().size(2), store.start.size());
+            due("unsure", x().size(3), store.unsure.size());
+            due("seen", x().size(4), store.seen.size());
+            due("nights", x().size(5), now.nights());
+            due("stones", x().size(6), now.cellars().stream().mapToInt(Naive.State::stones).sum());
+            due("acts", x().size(7), past.size());
+            due("images", x().size(8), images.size());
         }
     }
 
-    private void call(int which) {
+    private void ask(int which) {
         if (store == null) {
             return;
         }
@@ -206,29 +213,29 @@ final class RandomRunsTest {
             Naive.State then = Naive.nights(state, law, store.hold, n);
             int i = random.nextInt(8);
             Checks.promise(9);
-            due("heaps(" + c + ", " + n + ")", x.heaps(c, n), then.heaps().size());
+            due("heaps(" + c + ", " + n + ")", x().heaps(c, n), then.heaps().size());
             Checks.promise(10);
-            due("greatest(" + c + ", " + n + ")", x.greatest(c, n), then.heaps().isEmpty() ? 0 : then.heaps().get(0));
+            due("greatest(" + c + ", " + n + ")", x().greatest(c, n), then.heaps().isEmpty() ? 0 : then.heaps().get(0));
             Checks.promise(11);
-            due("heapIn(" + c + ", " + n + ", " + i + ")", x.heapIn(c, n, i), i < then.heaps().size() ? then.heaps().get(i) : 0);
+            due("heapIn(" + c + ", " + n + ", " + i + ")", x().heapIn(c, n, i), i < then.heaps().size() ? then.heaps().get(i) : 0);
             Checks.promise(12);
-            due("held(" + c + ", " + n + ")", x.held(c, n), then.held());
+            due("held(" + c + ", " + n + ")", x().held(c, n), then.held());
             return;
         }
         int[] rounds = Naive.settleAndRound(state, law, store.hold);
         Checks.promise(13);
-        due("settles(" + c + ")", x.settles(c), rounds[0]);
+        due("settles(" + c + ")", x().settles(c), rounds[0]);
         Checks.promise(14);
-        due("round(" + c + ")", x.round(c), rounds[1]);
+        due("round(" + c + ")", x().round(c), rounds[1]);
         Checks.promise(15);
-        due("fewest(" + c + ")", x.fewest(c), Naive.fewest(state, law, store.hold));
+        due("fewest(" + c + ")", x().fewest(c), Naive.fewest(state, law, store.hold));
         Checks.promise(16);
         int other = random.nextInt(now.cellars().size());
         int alike = c == other ? -1
                 : Naive.alike(state, law, now.cellars().get(other), store.laws.get(other), store.hold);
-        due("alike(" + c + ", " + other + ")", x.alike(c, other), alike);
+        due("alike(" + c + ", " + other + ")", x().alike(c, other), alike);
         Checks.promise(8);
-        due("still(" + c + ")", x.still(c), Naive.night(state, law, store.hold).equals(state) ? 1 : 0);
+        due("still(" + c + ")", x().still(c), Naive.night(state, law, store.hold).equals(state) ? 1 : 0);
     }
 
     private void shape(int c, Naive.State state, int which) {
@@ -237,37 +244,37 @@ final class RandomRunsTest {
         int j = random.nextInt(9) - 1;
         int other = random.nextInt(now.cellars().size());
         Checks.promise(17);
-        due("column", x.column(c, Math.max(j, 0)), Naive.column(heaps, Math.max(j, 0)));
+        due("column", x().column(c, Math.max(j, 0)), Naive.column(heaps, Math.max(j, 0)));
         Checks.promise(18);
-        due("square", x.square(c), Naive.square(heaps));
+        due("square", x().square(c), Naive.square(heaps));
         Checks.promise(19);
-        due("corners", x.corners(c), heaps.stream().distinct().count());
+        due("corners", x().corners(c), heaps.stream().distinct().count());
         Checks.promise(20);
-        due("rank", x.rank(c), heaps.isEmpty() ? 0 : heaps.get(0) - heaps.size());
+        due("rank", x().rank(c), heaps.isEmpty() ? 0 : heaps.get(0) - heaps.size());
         Checks.promise(21);
-        due("hook", x.hook(c, i, j), Naive.isStone(heaps, i, j) ? Naive.hook(heaps, i, j) : -1);
+        due("hook", x().hook(c, i, j), Naive.isStone(heaps, i, j) ? Naive.hook(heaps, i, j) : -1);
         Checks.promise(23);
-        due("common", x.common(c, other), Naive.common(heaps, now.cellars().get(other).heaps()));
+        due("common", x().common(c, other), Naive.common(heaps, now.cellars().get(other).heaps()));
         Checks.promise(24);
-        due("mirrors", x.mirrors(c, other), Naive.mirrors(heaps, now.cellars().get(other).heaps()) ? 1 : 0);
+        due("mirrors", x().mirrors(c, other), Naive.mirrors(heaps, now.cellars().get(other).heaps()) ? 1 : 0);
         Checks.promise(22);
         if (Naive.sum(heaps) > 30) {
-            Checks.refused(x, "orders", x.orders(c), -1, 3);
+            Checks.refused(x(), "orders", x().orders(c), -1, 3);
         } else if (Naive.sum(heaps) <= 22 || which == 12) {
-            due("orders", x.orders(c), Naive.orders(heaps).longValueExact());
+            due("orders", x().orders(c), Naive.orders(heaps).longValueExact());
         }
         if (Naive.sum(heaps) <= 18) {
             List<List<Integer>> sources = Naive.sources(heaps);
             Checks.promise(25);
-            due("sources", x.sources(c), sources.size());
+            due("sources", x().sources(c), sources.size());
             Checks.promise(26);
             int k = random.nextInt(3);
             int height = random.nextInt(6);
             if (k >= sources.size()) {
-                due("source", x.source(c, k, height), -1);
+                due("source", x().source(c, k, height), -1);
             } else {
                 int want = height < sources.get(k).size() ? sources.get(k).get(height) : 0;
-                due("source", x.source(c, k, height), want);
+                due("source", x().source(c, k, height), want);
             }
         }
     }
@@ -275,46 +282,46 @@ final class RandomRunsTest {
     private void sums(int c, Naive.State state, int which) {
         List<Integer> heaps = state.heaps();
         Checks.promise(34);
-        due("level", x.level(c), Naive.level(heaps));
+        due("level", x().level(c), Naive.level(heaps));
         if (heaps.size() <= 6) {
             Checks.promise(33);
-            due("carry", x.carry(c), Naive.carry(heaps));
+            due("carry", x().carry(c), Naive.carry(heaps));
         }
         if (heaps.size() <= 12) {
             int k = random.nextInt(61);
             Checks.promise(35);
-            due("makes(" + c + ", " + k + ")", x.makes(c, k), Naive.makes(heaps, k));
+            due("makes(" + c + ", " + k + ")", x().makes(c, k), Naive.makes(heaps, k));
             Checks.promise(36);
-            due("half", x.half(c), Naive.half(heaps));
+            due("half", x().half(c), Naive.half(heaps));
         }
         if (Naive.sum(heaps) <= 20) {
             int[] bite = Naive.firstBite(heaps);
             Checks.promise(30);
-            due("eats", x.eats(c), bite == null ? 0 : 1);
+            due("eats", x().eats(c), bite == null ? 0 : 1);
             Checks.promise(31);
-            due("eatsOf", x.eatsOf(c), bite == null ? -2 : bite[0]);
+            due("eatsOf", x().eatsOf(c), bite == null ? -2 : bite[0]);
             Checks.promise(32);
-            due("eatsMany", x.eatsMany(c), bite == null ? -2 : bite[1]);
+            due("eatsMany", x().eatsMany(c), bite == null ? -2 : bite[1]);
         }
     }
 
     private void unsure() {
         List<Integer> fits = store.fits();
         Checks.promise(37);
-        due("fits()", x.fits(), fits.size());
+        due("fits()", x().fits(), fits.size());
         Checks.promise(38);
         int i = random.nextInt(6) - 1;
-        due("fitAt(" + i + ")", x.fitAt(i), i >= 0 && i < fits.size() ? fits.get(i) : -1);
+        due("fitAt(" + i + ")", x().fitAt(i), i >= 0 && i < fits.size() ? fits.get(i) : -1);
         Checks.promise(39);
-        due("could()", x.could(), fits.stream().reduce(0, (one, other) -> one | other));
+        due("could()", x().could(), fits.stream().reduce(0, (one, other) -> one | other));
         Checks.promise(40);
-        due("surely()", x.surely(), fits.isEmpty() ? 0 : fits.stream().reduce(15, (one, other) -> one & other));
+        due("surely()", x().surely(), fits.isEmpty() ? 0 : fits.stream().reduce(15, (one, other) -> one & other));
         Checks.promise(41);
-        due("ask()", x.ask(), store.ask()[0]);
+        due("ask()", x().ask(), store.ask()[0]);
         Checks.promise(42);
-        due("askLeaves()", x.askLeaves(), store.ask()[1]);
+        due("askLeaves()", x().askLeaves(), store.ask()[1]);
         Checks.promise(43);
-        due("judge()", x.judge(), store.judge());
+        due("judge()", x().judge(), store.judge());
     }
 
     private void chance(int c, Naive.State state, int law) {
@@ -322,17 +329,17 @@ final class RandomRunsTest {
         int many = random.nextInt(8);
         Checks.promise(47);
         BigInteger odds = Naive.weigh(state, law, store.hold, store.sleeps, n, many);
-        due("odds, upper", x.odds(c, n, many, false), Naive.lowest(odds, n, false));
-        due("odds, lower", x.odds(c, n, many, true), Naive.lowest(odds, n, true));
+        due("odds, upper", x().odds(c, n, many, false), Naive.lowest(odds, n, false));
+        due("odds, lower", x().odds(c, n, many, true), Naive.lowest(odds, n, true));
         Checks.promise(48);
         BigInteger mean = Naive.weigh(state, law, store.hold, store.sleeps, n, -1);
-        due("mean, upper", x.mean(c, n, false), Naive.lowest(mean, n, false));
-        due("mean, lower", x.mean(c, n, true), Naive.lowest(mean, n, true));
+        due("mean, upper", x().mean(c, n, false), Naive.lowest(mean, n, false));
+        due("mean, lower", x().mean(c, n, true), Naive.lowest(mean, n, true));
         Checks.promise(49);
         int seed = random.nextInt(65537);
         int nights = random.nextInt(201);
         int drawn = Naive.drawn(state, law, store.hold, store.sleeps, seed, nights);
-        due("drawn(" + c + ", " + seed + ", " + nights + ")", x.drawn(c, seed, nights), drawn);
+        due("drawn(" + c + ", " + seed + ", " + nights + ")", x().drawn(c, seed, nights), drawn);
     }
 
     private void act(int c, Naive.State state, int which) {
@@ -347,7 +354,7 @@ final class RandomRunsTest {
                 Checks.promise(51);
                 int many = random.nextInt(random.nextInt(3) == 0 ? 33 : 6);
                 boolean refused = many < 1 || many > 30 || state.stones() + many > 60;
-                due("add(" + c + ", " + many + ")", x.add(c, many), refused ? -1 : heaps.size() + 1);
+                due("add(" + c + ", " + many + ")", x().add(c, many), refused ? -1 : heaps.size() + 1);
                 if (!refused) {
                     heaps.add(many);
                     change(c, heaps);
@@ -355,7 +362,7 @@ final class RandomRunsTest {
             }
             case 4, 5 -> {
                 Checks.promise(52);
-                due("take(" + c + ", " + i + ")", x.take(c, i), hasI ? state.stones() - 1 : -1);
+                due("take(" + c + ", " + i + ")", x().take(c, i), hasI ? state.stones() - 1 : -1);
                 if (hasI) {
                     heaps.set(i, heaps.get(i) - 1);
                     change(c, heaps);
@@ -364,7 +371,7 @@ final class RandomRunsTest {
             case 6 -> {
                 Checks.promise(53);
                 boolean refused = !hasI || !hasJ || i == j;
-                due("join(" + c + ", " + i + ", " + j + ")", x.join(c, i, j), refused ? -1 : heaps.get(i) + heaps.get(j));
+                due("join(" + c + ", " + i + ", " + j + ")", x().join(c, i, j), refused ? -1 : heaps.get(i) + heaps.get(j));
                 if (!refused) {
                     heaps.set(i, heaps.get(i) + heaps.get(j));
                     heaps.set(j, 0);
@@ -373,7 +380,7 @@ final class RandomRunsTest {
             }
             case 7 -> {
                 Checks.promise(54);
-                Checks.due("undo()", x.undo(), !past.isEmpty());
+                Checks.due("undo()", x().undo(), !past.isEmpty());
                 now = past.isEmpty() ? now : past.pop();
             }
             default -> {
@@ -405,7 +412,7 @@ final class RandomRunsTest {
             cellars.add(Naive.night(now.cellars().get(c), store.laws.get(c), store.hold));
             changed |= cellars.get(c).equals(now.cellars().get(c)) ? 0 : 1 << c;
         }
-        due("night()", x.night(), changed);
+        due("night()", x().night(), changed);
         keep();
         now = new Moment(cellars, now.nights() + 1);
     }
@@ -414,14 +421,14 @@ final class RandomRunsTest {
         int which = random.nextInt(6) - 1;
         if (random.nextInt(3) == 0) {
             Checks.promise(55);
-            due("image()", x.image(), images.size() < 3 ? images.size() : -1);
+            due("image()", x().image(), images.size() < 3 ? images.size() : -1);
             if (images.size() < 3) {
                 images.add(now);
             }
         } else {
             Checks.promise(56);
             boolean there = which >= 0 && which < images.size();
-            Checks.due("back(" + which + ")", x.back(which), there);
+            Checks.due("back(" + which + ")", x().back(which), there);
             if (there) {
                 now = images.get(which);
                 past.clear();
@@ -440,7 +447,7 @@ final class RandomRunsTest {
         for (int i = -1; i < 5; i++) {
             int got;
             try {
-                got = x.led(i);
+                got = x().led(i);
             } catch (NoSuchElementException e) {
                 got = -1;
             }
