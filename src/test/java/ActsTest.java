@@ -9,9 +9,7 @@ final class ActsTest {
         takes();
         joins();
         undoes();
-        keepsSixteen();
         images();
-        refusals();
     }
 
     private static void heapsAre(StewardHeaps x, int c, int... heights) {
@@ -147,26 +145,6 @@ final class ActsTest {
         Checks.due("acts that were refused, and images, are none", x.undo(), false);
     }
 
-    private static void keepsSixteen() {
-        Checks.promise(54);
-        StewardHeaps x = Texts.cellar("giver 1");
-        for (int i = 0; i < 40; i++) {
-            x.add(0, 1);
-            Checks.due("size(7)", x.size(7), Math.min(16, i + 1));
-        }
-        for (int i = 0; i < 5; i++) {
-            Checks.due("undo", x.undo(), true);
-            Checks.due("heaps", x.cellar(0, 1), 40 - i);
-        }
-        x.take(0, 0);
-        for (int i = 0; i < 12; i++) {
-            Checks.due("undo", x.undo(), true);
-            Checks.due("heaps", x.cellar(0, 1), 36 - i);
-        }
-        Checks.due("no more than sixteen", x.undo(), false);
-        Checks.due("heaps", x.cellar(0, 1), 25);
-    }
-
     private static void images() {
         Checks.promise(55);
         StewardHeaps x = Texts.of(Texts.FOUR);
@@ -203,38 +181,5 @@ final class ActsTest {
         Checks.due("no images of an old store", x.back(0), false);
         Checks.promise(55);
         Checks.answered(x, "image()", x.image(), 0);
-    }
-
-    private static void refusals() {
-        StewardHeaps none = new StewardHeaps();
-        Checks.promise(50);
-        Checks.refused(none, "night()", none.night(), -1, 1);
-        Checks.promise(54);
-        Checks.due("undo()", none.undo(), false);
-        Checks.due("trouble()", none.trouble(), 6);
-        Checks.promise(55);
-        Checks.refused(none, "image()", none.image(), -1, 1);
-        Checks.promise(56);
-        Checks.due("back(0)", none.back(0), false);
-        Checks.due("trouble()", none.trouble(), 1);
-        StewardHeaps x = Texts.of(Texts.FOUR);
-        for (int c : new int[] {-1, 4, Integer.MIN_VALUE, Integer.MAX_VALUE}) {
-            Checks.promise(51);
-            Checks.refused(x, "add", x.add(c, 31), -1, 1);
-            Checks.promise(52);
-            Checks.refused(x, "take", x.take(c, 0), -1, 1);
-            Checks.refused(x, "take, i", x.take(0, c), -1, 1);
-            Checks.promise(53);
-            Checks.refused(x, "join", x.join(c, 0, 1), -1, 1);
-            Checks.refused(x, "join, i", x.join(0, c, 0), -1, 1);
-            Checks.refused(x, "join, j", x.join(0, 0, c), -1, 1);
-            Checks.promise(56);
-            Checks.due("back", x.back(c), false);
-        }
-        Checks.promise(51);
-        for (int many : new int[] {0, 31, -1, Integer.MIN_VALUE, Integer.MAX_VALUE}) {
-            Checks.refused(x, "add(0, " + many + ")", x.add(0, many), -1, 2);
-        }
-        Checks.due("no act", x.size(7), 0);
     }
 }

@@ -7,7 +7,6 @@ final class ChanceTest {
         likely();
         means();
         seeds();
-        refusals();
     }
 
     private static void odds(StewardHeaps x, int c, int n, int many, long upper, long lower) {
@@ -95,35 +94,5 @@ final class ChanceTest {
         Checks.answered(x, "always asleep", x.drawn(0, 7, 200), 1);
         x = Texts.of("store hold 3 sleeps 0;cellar a giver 5");
         Checks.answered(x, "never asleep", x.drawn(0, 7, 200), x.heaps(0, 200));
-    }
-
-    private static void refusals() {
-        StewardHeaps x = Texts.of(Texts.FOUR);
-        for (int c : new int[] {-1, 4, Integer.MIN_VALUE, Integer.MAX_VALUE}) {
-            Checks.promise(47);
-            Checks.refused(x, "odds of none", x.odds(c, 9, 61, true), -1, 1);
-            Checks.promise(48);
-            Checks.refused(x, "mean of none", x.mean(c, 9, true), -1, 1);
-            Checks.promise(49);
-            Checks.refused(x, "drawn of none", x.drawn(c, -1, -1), -1, 1);
-        }
-        for (int number : new int[] {-1, Integer.MIN_VALUE, Integer.MAX_VALUE}) {
-            Checks.promise(47);
-            Checks.refused(x, "odds, n", x.odds(0, number, 0, true), -1, 2);
-            Checks.refused(x, "odds, many", x.odds(0, 0, number, true), -1, 2);
-            Checks.promise(48);
-            Checks.refused(x, "mean, n", x.mean(0, number, true), -1, 2);
-            Checks.promise(49);
-            Checks.refused(x, "drawn, seed", x.drawn(0, number, 0), -1, 2);
-            Checks.refused(x, "drawn, n", x.drawn(0, 0, number), -1, 2);
-        }
-        Checks.promise(47);
-        Checks.refused(x, "odds, n", x.odds(0, 9, 0, true), -1, 2);
-        Checks.refused(x, "odds, many", x.odds(0, 0, 61, true), -1, 2);
-        Checks.promise(48);
-        Checks.refused(x, "mean, n", x.mean(0, 9, true), -1, 2);
-        Checks.promise(49);
-        Checks.refused(x, "drawn, seed", x.drawn(0, 65537, 0), -1, 2);
-        Checks.refused(x, "drawn, n", x.drawn(0, 0, 201), -1, 2);
     }
 }

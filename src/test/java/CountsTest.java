@@ -11,8 +11,6 @@ final class CountsTest {
         eaten();
         carriedAndLevelled();
         summed();
-        noHeaps();
-        refusals();
         allOfFewStones();
         mouse();
     }
@@ -52,17 +50,6 @@ final class CountsTest {
             sum += x.waysBy(60, k);
         }
         Checks.due("all ways by heaps", sum, 966467);
-        for (int n : new int[] {-1, 61, Integer.MIN_VALUE, Integer.MAX_VALUE}) {
-            Checks.promise(27);
-            Checks.refused(x, "ways", x.ways(n), -1, 2);
-            Checks.promise(28);
-            Checks.refused(x, "waysBy, n", x.waysBy(n, 0), -1, 2);
-            Checks.refused(x, "waysBy, k", x.waysBy(0, n), -1, 2);
-            Checks.promise(29);
-            Checks.refused(x, "waysUnlike", x.waysUnlike(n), -1, 2);
-            StewardHeaps none = new StewardHeaps();
-            Checks.refused(none, "waysUnlike without a store", none.waysUnlike(n), -1, 1);
-        }
     }
 
     private static void eaten() {
@@ -124,49 +111,6 @@ final class CountsTest {
         Checks.answered(x, "half of two heaps", x.half(0), 2);
     }
 
-    private static void noHeaps() {
-        StewardHeaps x = Texts.cellar("banker 1");
-        x.night();
-        Checks.promise(30);
-        Checks.answered(x, "eats", x.eats(0), 0);
-        Checks.promise(31);
-        Checks.answered(x, "eatsOf", x.eatsOf(0), -2);
-        Checks.promise(32);
-        Checks.answered(x, "eatsMany", x.eatsMany(0), -2);
-        Checks.promise(33);
-        Checks.answered(x, "carry", x.carry(0), 0);
-        Checks.promise(34);
-        Checks.answered(x, "level", x.level(0), 0);
-        Checks.promise(35);
-        Checks.answered(x, "makes(0, 0)", x.makes(0, 0), 0);
-        Checks.answered(x, "makes(0, 1), held ones don't count", x.makes(0, 1), -2);
-        Checks.promise(36);
-        Checks.answered(x, "half", x.half(0), 0);
-    }
-
-    private static void refusals() {
-        StewardHeaps x = Texts.of(Texts.FOUR);
-        for (int c : new int[] {-1, 4, Integer.MIN_VALUE, Integer.MAX_VALUE}) {
-            Checks.promise(30);
-            Checks.refused(x, "eats", x.eats(c), -1, 1);
-            Checks.promise(31);
-            Checks.refused(x, "eatsOf", x.eatsOf(c), -1, 1);
-            Checks.promise(32);
-            Checks.refused(x, "eatsMany", x.eatsMany(c), -1, 1);
-            Checks.promise(33);
-            Checks.refused(x, "carry", x.carry(c), -1, 1);
-            Checks.promise(34);
-            Checks.refused(x, "level", x.level(c), -1, 1);
-            Checks.promise(35);
-            Checks.refused(x, "makes", x.makes(c, 99), -1, 1);
-            Checks.promise(36);
-            Checks.refused(x, "half", x.half(c), -1, 1);
-        }
-        Checks.promise(35);
-        Checks.refused(x, "makes(0, -1)", x.makes(0, -1), -1, 2);
-        Checks.refused(x, "makes(0, 61)", x.makes(0, 61), -1, 2);
-    }
-
     private static void allOfFewStones() {
         for (int stones = 1; stones <= 13; stones++) {
             for (List<Integer> heaps : Naive.partitions(stones)) {
@@ -223,17 +167,5 @@ final class CountsTest {
         Checks.answered(x, "rest(0)", x.rest(0), 1);
         Checks.answered(x, "rest(1)", x.rest(1), 1);
         Checks.answered(x, "rest(9)", x.rest(9), 1);
-        StewardHeaps none = new StewardHeaps();
-        for (int cheese : new int[] {-1, 10, Integer.MIN_VALUE, Integer.MAX_VALUE}) {
-            Checks.promise(44);
-            Checks.refused(x, "comes", x.comes(cheese, true, true, true), -100, 2);
-            Checks.refused(none, "comes without a store", none.comes(cheese, true, true, true), -100, 1);
-            Checks.promise(45);
-            Checks.refused(x, "rests", x.rests(cheese), -1, 2);
-            Checks.refused(none, "rests without a store", none.rests(cheese), -1, 1);
-            Checks.promise(46);
-            Checks.refused(x, "rest", x.rest(cheese), -1, 2);
-            Checks.refused(none, "rest without a store", none.rest(cheese), -1, 1);
-        }
     }
 }

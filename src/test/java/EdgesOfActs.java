@@ -172,7 +172,7 @@ final class EdgesOfActs {
             Checks.due("heaps", x.cellar(0, 1), acts);
             Checks.due("acts that can be undone", x.size(7), acts - 1);
         }
-        Checks.refused(x, "undo() of a seventeenth", x.undo(), 6);
+        Checks.refused(x, "undo() once more", x.undo(), 6);
     }
 
     @Edge(promise = 54, says = "UNDO: the latest (16 are kept).")
@@ -394,18 +394,18 @@ final class EdgesOfActs {
     static void troubleOfCallsThatWereNot() {
         StewardHeaps x = new StewardHeaps();
         Checks.due("trouble() of a new object", x.trouble(), 0);
-        x.store(1);
-        Checks.due("trouble()", x.trouble(), 2);
+        x.undo();
+        Checks.due("trouble()", x.trouble(), 6);
         for (int i = 0; i < 46; i++) {
             x.feed(0, 0, 0, 0, 0);
         }
-        Checks.due("trouble() behind feeds, one of them beyond 900", x.trouble(), 2);
+        Checks.due("trouble() behind feeds, one of them beyond 900", x.trouble(), 6);
         x.size(10);
         x.fault();
         x.where();
         x.trouble();
         Checks.noneLed(x, 0);
-        Checks.due("trouble() behind calls of which no number is told", x.trouble(), 2);
+        Checks.due("trouble() behind calls of which no number is told", x.trouble(), 6);
         x = Texts.of(Texts.FOUR);
         x.heap(9, 9);
         x.alike(0, 1);

@@ -101,13 +101,16 @@ final class EdgesOfChance {
 
     @Edge(promise = 48, says = "The mean of how many there are then, likewise.")
     static void greatestMean() {
-        StewardHeaps x = Texts.of("store hold 9 sleeps 1;cellar a steward 1 1 1 1 1 1 1 1");
+        StewardHeaps x = Texts.of("store hold 9 sleeps 1;cellar a giver 1 1 1 1 1 1 1 1");
         Texts.add(x, 0, Texts.ones(52), 0);
         Naive.State state = new Naive.State(java.util.Collections.nCopies(60, 1), 0);
         for (int n = 0; n <= 8; n++) {
-            java.math.BigInteger upper = Naive.weigh(state, Naive.STEWARD, 9, 1, n, -1);
+            java.math.BigInteger upper = Naive.weigh(state, Naive.GIVER, 9, 1, n, -1);
             mean(x, n, Naive.lowest(upper, n, false), Naive.lowest(upper, n, true));
         }
+        x = Texts.of("store hold 9 sleeps 0;cellar a miser 1 1 1 1 1 1 1 1");
+        Texts.add(x, 0, Texts.ones(52), 0);
+        mean(x, 8, 60, 1);
     }
 
     @Edge(promise = 48, says = "-1: 1")
@@ -129,12 +132,19 @@ final class EdgesOfChance {
 
     @Edge(promise = 49, says = "behind n NIGHTS (0 .. 200)")
     static void drawnBehindNoneAndBehind200() {
-        Checks.answered(giver(50), "drawn(0, 1, 0)", giver(50).drawn(0, 1, 0), 1);
-        for (int n : new int[] {1, 2, 3, 198, 199, 200}) {
-            int due = Naive.drawn(Naive.of(0, 5), Naive.GIVER, 3, 50, 1, n);
-            StewardHeaps x = giver(50);
-            Checks.answered(x, "drawn(0, 1, " + n + ")", x.drawn(0, 1, n), due);
+        StewardHeaps x = giver(50);
+        for (int seed = 0; seed < 100; seed++) {
+            Checks.answered(x, "drawn(0, " + seed + ", 0)", x.drawn(0, seed, 0), 1);
+            Checks.answered(x, "drawn(0, " + seed + ", 200)", x.drawn(0, seed, 200), drawnOfFive(seed, 200));
         }
+        x = giver(50);
+        for (int n = 1; n <= 200; n++) {
+            Checks.due("drawn(0, 7, " + n + ")", x.drawn(0, 7, n), drawnOfFive(7, n));
+        }
+    }
+
+    private static int drawnOfFive(int seed, int n) {
+        return Naive.drawn(Naive.of(0, 5), Naive.GIVER, 3, 50, seed, n);
     }
 
     @Edge(promise = 49, says = "by a SEED (0 .. 65,536)")
@@ -155,7 +165,7 @@ final class EdgesOfChance {
         Checks.answered(x, "drawn(0, 873, 1)", x.drawn(0, 873, 1), 1);
         Checks.answered(x, "drawn(0, 872, 1)", x.drawn(0, 872, 1), 5);
         for (int seed = 0; seed <= 65536; seed += 1024) {
-            int due = Naive.drawn(Naive.of(0, 5), Naive.GIVER, 3, 50, seed, 200);
+            int due = drawnOfFive(seed, 200);
             Checks.answered(x, "drawn(0, " + seed + ", 200)", x.drawn(0, seed, 200), due);
         }
     }

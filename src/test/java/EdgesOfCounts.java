@@ -226,6 +226,10 @@ final class EdgesOfCounts {
         StewardHeaps x = Texts.of("store hold 9 sleeps 0;cellar a banker 4 4");
         x.night();
         Checks.answered(x, "half, two held", x.half(0), 3);
+        x = Texts.of("store hold 9 sleeps 0;cellar a banker 7 3");
+        x.night();
+        x.night();
+        Checks.answered(x, "half of 5 1, four held", x.half(0), 1);
     }
 
     @Edge(promise = 36, says = "NONE: 1")

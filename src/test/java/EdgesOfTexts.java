@@ -75,6 +75,10 @@ final class EdgesOfTexts {
         x.feed(0x20202080, BLANKS, BLANKS, BLANKS, BLANKS);
         x.store(40);
         Checks.due("the lowest byte, 0x80", x.where(), 23);
+        Texts.feed(x, "store hold 3 sleeps ");
+        x.feed(-BLANKS, BLANKS, BLANKS, BLANKS, BLANKS);
+        x.store(40);
+        Checks.due("the first byte of blanks below 0", x.where(), 20);
     }
 
     @Edge(promise = 2, says = "THE TAPE has 900 bytes")
@@ -246,6 +250,9 @@ final class EdgesOfTexts {
             }
             if (!letter && sign != ' ') {
                 Texts.faulty(1, STORE + "cellar " + (char) sign, 30);
+            }
+            if (!letter && sign != ' ' && sign != ';' && (sign < '0' || sign > '9')) {
+                Texts.faulty(1, ONE + (char) sign + "unsure a 3", ONE.length());
             }
         }
         Texts.faulty(1, STORE + "cellar a^{ giver 3");

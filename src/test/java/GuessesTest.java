@@ -8,12 +8,10 @@ final class GuessesTest {
     static void run() {
         nothingSeen();
         oneSet();
-        noSet();
         sureOnes();
         askedOnes();
         actsChangeNothing();
         judged();
-        refusals();
     }
 
     private static void nothingSeen() {
@@ -64,22 +62,6 @@ final class GuessesTest {
         Checks.answered(x, "askLeaves", x.askLeaves(), 1);
         Checks.promise(43);
         Checks.answered(x, "judge", x.judge(), 1);
-    }
-
-    private static void noSet() {
-        StewardHeaps x = Texts.of(TWO + ";seen a night 0 heaps 4");
-        Checks.promise(37);
-        Checks.answered(x, "fits", x.fits(), 0);
-        Checks.promise(38);
-        Checks.refused(x, "fitAt(0)", x.fitAt(0), -1, 1);
-        Checks.promise(39);
-        Checks.answered(x, "could", x.could(), 0);
-        Checks.promise(40);
-        Checks.answered(x, "surely", x.surely(), 0);
-        Checks.promise(41);
-        Checks.answered(x, "ask", x.ask(), -2);
-        Checks.promise(42);
-        Checks.answered(x, "askLeaves", x.askLeaves(), -2);
     }
 
     private static void sureOnes() {
@@ -138,23 +120,5 @@ final class GuessesTest {
         Checks.answered(x, "by heaps as told, without one more", x.judge(), 0);
         Checks.promise(37);
         Checks.answered(x, "but it may be", x.fits(), 2);
-    }
-
-    private static void refusals() {
-        StewardHeaps x = new StewardHeaps();
-        Checks.promise(37);
-        Checks.refused(x, "fits", x.fits(), -1, 1);
-        Checks.promise(38);
-        Checks.refused(x, "fitAt", x.fitAt(0), -1, 1);
-        Checks.promise(39);
-        Checks.refused(x, "could", x.could(), -1, 1);
-        Checks.promise(40);
-        Checks.refused(x, "surely", x.surely(), -1, 1);
-        Checks.promise(41);
-        Checks.refused(x, "ask", x.ask(), -1, 1);
-        Checks.promise(42);
-        Checks.refused(x, "askLeaves", x.askLeaves(), -1, 1);
-        Checks.promise(43);
-        Checks.refused(x, "judge", x.judge(), -1, 1);
     }
 }

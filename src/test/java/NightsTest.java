@@ -6,7 +6,6 @@ final class NightsTest {
     static void run() {
         laws();
         behind();
-        refusals();
         rounds();
         fewestHeaps();
         alikeCellars();
@@ -64,43 +63,6 @@ final class NightsTest {
         Checks.answered(x, "held behind a night more", x.held(1, 1), 1);
         Checks.promise(10);
         Checks.answered(x, "from now on", x.greatest(1, 0), 3);
-    }
-
-    private static void refusals() {
-        StewardHeaps x = Texts.of(Texts.FOUR);
-        for (int c : new int[] {-1, 4, Integer.MIN_VALUE, Integer.MAX_VALUE}) {
-            Checks.promise(9);
-            Checks.refused(x, "heaps of none", x.heaps(c, 0), -1, 1);
-            Checks.promise(10);
-            Checks.refused(x, "greatest of none", x.greatest(c, 0), -1, 1);
-            Checks.promise(11);
-            Checks.refused(x, "heapIn of none", x.heapIn(c, 0, 0), -1, 1);
-            Checks.refused(x, "heapIn of none, of a number", x.heapIn(c, 1000, 60), -1, 1);
-            Checks.promise(12);
-            Checks.refused(x, "held of none", x.held(c, 0), -1, 1);
-            Checks.promise(13);
-            Checks.refused(x, "settles of none", x.settles(c), -1, 1);
-            Checks.promise(14);
-            Checks.refused(x, "round of none", x.round(c), -1, 1);
-            Checks.promise(15);
-            Checks.refused(x, "fewest of none", x.fewest(c), -1, 1);
-            Checks.promise(16);
-            Checks.refused(x, "alike of none", x.alike(c, 0), -1, 1);
-            Checks.refused(x, "alike to none", x.alike(0, c), -1, 1);
-        }
-        for (int n : new int[] {-1, 1000, Integer.MIN_VALUE, Integer.MAX_VALUE}) {
-            Checks.promise(9);
-            Checks.refused(x, "heaps", x.heaps(0, n), -1, 2);
-            Checks.promise(10);
-            Checks.refused(x, "greatest", x.greatest(0, n), -1, 2);
-            Checks.promise(11);
-            Checks.refused(x, "heapIn", x.heapIn(0, n, 0), -1, 2);
-            Checks.promise(12);
-            Checks.refused(x, "held", x.held(0, n), -1, 2);
-        }
-        Checks.promise(11);
-        Checks.refused(x, "heapIn(0, 0, 60)", x.heapIn(0, 0, 60), -1, 2);
-        Checks.refused(x, "heapIn(0, 0, -1)", x.heapIn(0, 0, -1), -1, 2);
     }
 
     private static void rounds(String text, int settles, int round) {

@@ -10,8 +10,6 @@ final class ShapesTest {
         pairs();
         manyOrders();
         sources();
-        noHeaps();
-        refusals();
         allOfFewStones();
     }
 
@@ -88,72 +86,6 @@ final class ShapesTest {
                 Checks.answered(x, "source(0, " + k + ", " + i + ")", x.source(0, k, i), heights[k][i]);
             }
         }
-    }
-
-    private static void noHeaps() {
-        StewardHeaps x = Texts.cellar("banker 1");
-        x.night();
-        Checks.promise(17);
-        Checks.answered(x, "column", x.column(0, 0), 0);
-        Checks.promise(18);
-        Checks.answered(x, "square", x.square(0), 0);
-        Checks.promise(19);
-        Checks.answered(x, "corners", x.corners(0), 0);
-        Checks.promise(20);
-        Checks.answered(x, "rank", x.rank(0), 0);
-        Checks.promise(21);
-        Checks.refused(x, "hook", x.hook(0, 0, 0), -1, 1);
-        Checks.promise(22);
-        Checks.answered(x, "orders", x.orders(0), 1);
-        Checks.promise(23);
-        Checks.answered(x, "common", x.common(0, 0), 0);
-        Checks.promise(24);
-        Checks.answered(x, "mirrors", x.mirrors(0, 0), 1);
-        Checks.promise(25);
-        Checks.answered(x, "sources", x.sources(0), 1);
-        Checks.promise(26);
-        Checks.answered(x, "source", x.source(0, 0, 0), 0);
-        Checks.refused(x, "source", x.source(0, 1, 0), -1, 1);
-    }
-
-    private static void refusals() {
-        StewardHeaps x = Texts.of(Texts.FOUR);
-        for (int c : new int[] {-1, 4, Integer.MIN_VALUE, Integer.MAX_VALUE}) {
-            Checks.promise(17);
-            Checks.refused(x, "column", x.column(c, 0), -1, 1);
-            Checks.promise(18);
-            Checks.refused(x, "square", x.square(c), -1, 1);
-            Checks.promise(19);
-            Checks.refused(x, "corners", x.corners(c), -1, 1);
-            Checks.promise(20);
-            Checks.refused(x, "rank", x.rank(c), -1000, 1);
-            Checks.promise(21);
-            Checks.refused(x, "hook", x.hook(c, 0, 0), -1, 1);
-            Checks.refused(x, "hook, row", x.hook(0, c, 0), -1, 1);
-            Checks.refused(x, "hook, column", x.hook(0, 0, c), -1, 1);
-            Checks.promise(22);
-            Checks.refused(x, "orders", x.orders(c), -1, 1);
-            Checks.promise(23);
-            Checks.refused(x, "common", x.common(c, 0), -1, 1);
-            Checks.refused(x, "common", x.common(0, c), -1, 1);
-            Checks.promise(24);
-            Checks.refused(x, "mirrors", x.mirrors(c, 0), -1, 1);
-            Checks.refused(x, "mirrors", x.mirrors(0, c), -1, 1);
-            Checks.promise(25);
-            Checks.refused(x, "sources", x.sources(c), -1, 1);
-            Checks.promise(26);
-            Checks.refused(x, "source", x.source(c, 0, 0), -1, 1);
-            Checks.refused(x, "source, k", x.source(0, c, 60), -1, 1);
-        }
-        Checks.promise(17);
-        Checks.refused(x, "column(0, 60)", x.column(0, 60), -1, 2);
-        Checks.refused(x, "column(0, -1)", x.column(0, -1), -1, 2);
-        Checks.promise(21);
-        Checks.refused(x, "hook beyond its row", x.hook(0, 1, 1), -1, 1);
-        Checks.promise(26);
-        Checks.refused(x, "source(0, 0, 60)", x.source(0, 0, 60), -1, 2);
-        Checks.refused(x, "source(0, 0, -1)", x.source(0, 0, -1), -1, 2);
-        Checks.answered(x, "source(0, 0, 59)", x.source(0, 0, 59), 0);
     }
 
     private static void allOfFewStones() {
