@@ -96,6 +96,9 @@ final class EdgesOfGuesses {
         Checks.due("surely(), one is known", Texts.of(ALL + ";seen c night 0 heaps 4").surely(), 2);
         x = Texts.of(ALL + ";seen a night 0 heaps 3;seen b night 0 heaps 3;seen c night 0 heaps 4;seen d night 0 heaps 4");
         Checks.answered(x, "surely(), all are known", x.surely(), 15);
+        Texts.tell(x, NO_SET);
+        Checks.answered(x, "surely() of no set, behind a store with one", x.surely(), 0);
+        Checks.answered(x, "could() of no set, behind a store with one", x.could(), 0);
     }
 
     @Edge(promise = 40, says = "NONE: 1 (no STORE)")
