@@ -7,14 +7,16 @@ import java.lang.reflect.Modifier;
 /** All calls of one run live in one room of 7.3 million fields and elements: no call makes much. */
 final class RoomTest {
     private static final int CALLS = 500;
-    private static final long MOST_BYTES = 20_000_000;
+    private static final long MOST_BYTES = 60_000_000;
 
     private RoomTest() {
     }
 
     static void run() {
         Checks.promise(0);
-        ThreadMXBean room = (ThreadMXBean) ManagementFactory.getThreadMXBean();
+        if (!(ManagementFactory.getThreadMXBean() instanceof ThreadMXBean room) || !room.isThreadAllocatedMemorySupported()) {
+            return;
+        }
         for (Method method : StewardHeaps.class.getDeclaredMethods()) {
             if (Modifier.isPublic(method.getModifiers())) {
                 long before = room.getThreadAllocatedBytes(Thread.currentThread().getId());
